@@ -1,0 +1,49 @@
+/** Short ways to bring a balloon of the class to where a test begins. */
+final class Tale {
+  private Tale() {
+  }
+
+  static DownAmongFences of(String letters) {
+    DownAmongFences x = new DownAmongFences();
+    if (!letters.isEmpty()) {
+      int answer = tell(x, letters);
+      if (answer < 1) {
+        throw new IllegalStateException("the test's own LAND is at fault: " + letters + " " + answer);
+      }
+    }
+    return x;
+  }
+
+  static int tell(DownAmongFences x, String letters) {
+    for (int i = 0; i < letters.length(); i++) {
+      x.feed(letters.charAt(i));
+    }
+    return x.land();
+  }
+
+  static void row(DownAmongFences x, int... numbers) {
+    x.clear();
+    for (int v : numbers) {
+      x.row(v);
+    }
+  }
+
+  /** What all the counts tell, but those of REFUSALS. */
+  static String state(DownAmongFences x) {
+    StringBuilder all = new StringBuilder();
+    for (int what = 0; what <= 18; what++) {
+      if (what < 11 || what > 16) {
+        all.append(x.count(what)).append(' ');
+      }
+    }
+    for (int i = 0; i < 8; i++) {
+      all.append(x.layer(i, 0)).append(' ').append(x.layer(i, 1)).append(' ').append(x.drive(i)).append(' ');
+    }
+    for (int i = 0; i < x.count(0); i++) {
+      for (int what = 0; what < 5; what++) {
+        all.append(x.field(i, what)).append(' ');
+      }
+    }
+    return all.toString();
+  }
+}
