@@ -55,7 +55,7 @@ public final class DownAmongFences {
   private final Letters letters = new Letters();
   private final Row numbers = new Row();
   private final int[] refusals = new int[7];
-  private final Mind mind = new Mind(now);
+  private final Mind mind = new Mind();
   private final Ways ways = new Ways();
 
   public DownAmongFences() {
@@ -194,7 +194,7 @@ public final class DownAmongFences {
     if (no != 0) {
       return refuse(no);
     }
-    mind.begin();
+    mind.begin(now);
     if (!mind.follow(k, p)) {
       return NONE;
     }
@@ -221,7 +221,7 @@ public final class DownAmongFences {
     if (what < 0 || what > 2) {
       return refuse(OTHER);
     }
-    mind.begin();
+    mind.begin(now);
     mind.seekPlansInto(field);
     if (what == 0) {
       return mind.plansFound;
@@ -233,13 +233,13 @@ public final class DownAmongFences {
     if (what < 0 || what > 1) {
       return refuse(OTHER);
     }
-    mind.begin();
+    mind.begin(now);
     mind.seekCheapest();
     return what == 0 ? mind.cheapestPlan : mind.cheapestCost;
   }
 
   public int left() {
-    mind.begin();
+    mind.begin(now);
     return mind.fieldsWithin();
   }
 
@@ -247,7 +247,7 @@ public final class DownAmongFences {
     if (!isField(field)) {
       return refuse(NOBODY);
     }
-    mind.begin();
+    mind.begin(now);
     for (int gas = 0; gas <= GAS_MOST; gas++) {
       mind.takeGas(gas);
       if (mind.somePlanLeadsInto(field)) {
@@ -267,7 +267,7 @@ public final class DownAmongFences {
     if (n > 20) {
       return REFUSED_INT - refuse(ROOM);
     }
-    mind.begin();
+    mind.begin(now);
     mind.seekCheapest();
     int here = mind.cheapestCost;
     mind.holdFirst(n);
@@ -307,7 +307,7 @@ public final class DownAmongFences {
     if (what < 0 || what > 2) {
       return refuse(OTHER);
     }
-    mind.begin();
+    mind.begin(now);
     mind.answerEach(1);
     if (what == 2) {
       return mind.swingGrows() ? 1 : 0;
@@ -316,7 +316,7 @@ public final class DownAmongFences {
   }
 
   public int calm() {
-    mind.begin();
+    mind.begin(now);
     for (int g = 1; g <= 9; g++) {
       mind.answerEach(g);
       if (!mind.swingGrows()) {
@@ -428,7 +428,7 @@ public final class DownAmongFences {
   }
 
   public int judge() {
-    mind.begin();
+    mind.begin(now);
     int wrong = mind.firstHeightUnlike(numbers);
     numbers.drop();
     return wrong;
@@ -450,7 +450,7 @@ public final class DownAmongFences {
     if (what < 0 || what > 1) {
       return refuse(OTHER);
     }
-    mind.begin();
+    mind.begin(now);
     mind.flyByLot(n, z);
     return what == 0 ? mind.lotsInFields : mind.lotsCost;
   }
@@ -463,7 +463,7 @@ public final class DownAmongFences {
     }
     int people = NONE;
     int least = NONE;
-    mind.begin();
+    mind.begin(now);
     for (int q = 1; q <= PEOPLE_MOST; q++) {
       mind.takePeople(q);
       mind.seekCheapest();
@@ -478,7 +478,7 @@ public final class DownAmongFences {
   public int whichLag() {
     int lags = 0;
     for (int lag = 0; lag <= LAG_MOST; lag++) {
-      mind.begin();
+      mind.begin(now);
       mind.takeLag(lag);
       if (mind.firstHeightUnlike(numbers) == NONE) {
         lags |= 1 << lag;
@@ -497,7 +497,7 @@ public final class DownAmongFences {
     }
     int sides = 0;
     int least = NONE;
-    mind.begin();
+    mind.begin(now);
     for (int side = -SIDE_MOST; side <= SIDE_MOST; side++) {
       mind.takeSide(side);
       if (mind.leadsInto(field, k, p)) {
@@ -518,7 +518,7 @@ public final class DownAmongFences {
     }
     int first = NONE;
     int last = NONE;
-    mind.begin();
+    mind.begin(now);
     for (int k = 0; k <= HOLD_MOST; k++) {
       if (mind.leadsInto(field, k, p)) {
         first = first == NONE ? k : first;
@@ -532,7 +532,7 @@ public final class DownAmongFences {
     if (what < 0 || what > 4) {
       return refuse(OTHER);
     }
-    mind.begin();
+    mind.begin(now);
     mind.flyActs(numbers);
     switch (what) {
       case 0:
@@ -552,7 +552,7 @@ public final class DownAmongFences {
     if (what < 0 || what > 1) {
       return refuse(OTHER);
     }
-    mind.begin();
+    mind.begin(now);
     mind.climbAll();
     return what == 0 ? mind.topHeight : mind.topStep;
   }
@@ -561,6 +561,7 @@ public final class DownAmongFences {
     if (what < 0 || what > 2) {
       return refuse(OTHER);
     }
+    mind.begin(now);
     mind.playGame();
     if (what == 2) {
       return mind.surestLoss();
@@ -576,7 +577,7 @@ public final class DownAmongFences {
     if (k > HOLD_MOST || p > PULL_MOST || q > PEOPLE_MOST) {
       return refuse(ROOM);
     }
-    mind.begin();
+    mind.begin(now);
     if (!mind.follow(k, p)) {
       return NONE;
     }
@@ -594,7 +595,7 @@ public final class DownAmongFences {
     if (no != 0) {
       return refuse(no);
     }
-    mind.begin();
+    mind.begin(now);
     if (!mind.follow(k, p)) {
       return NONE;
     }
@@ -734,7 +735,7 @@ public final class DownAmongFences {
   private static int sharedMeasure(int a, int b) {
     int one = a;
     int other = b;
-    while (other > 0) {
+    for (int i = 0; i < 100 && other > 0; i++) {
       int rest = one % other;
       one = other;
       other = rest;
@@ -1220,7 +1221,7 @@ public final class DownAmongFences {
     }
   }
 
-  /** What is in mind, from now: trials on copies of the flight and of the air. */
+  /** What is in mind, from now: trials on copies of all that a PLAN needs. */
   private static final class Mind {
     private static final int PLAN_STEPS = 60;
     private static final int SWING_STEPS = 40;
@@ -1228,8 +1229,8 @@ public final class DownAmongFences {
     private static final int CLIMB_STEPS = 60;
     private static final int CHOICES = 3;
 
-    private final World world;
     private final Air air = new Air();
+    private final Fields fields = new Fields();
     private final Flight start = new Flight();
     /** The start behind heldFor STEPS of HOLD: PLANS of growing k share it. */
     private final Flight held = new Flight();
@@ -1248,12 +1249,9 @@ public final class DownAmongFences {
     int topStep;
     private final int[] losses = new int[CHOICES * 2];
 
-    Mind(World world) {
-      this.world = world;
-    }
-
-    void begin() {
+    void begin(World world) {
       air.copyFrom(world.air);
+      fields.copyFrom(world.fields);
       start.copyFrom(world.flight);
       rewind();
     }
@@ -1323,11 +1321,11 @@ public final class DownAmongFences {
     }
 
     int fieldThere() {
-      return world.fields.fieldAt(flown.x, flown.y);
+      return fields.fieldAt(flown.x, flown.y);
     }
 
     int costThere() {
-      return world.fields.costOf(fieldThere(), flown.pace, air.dragOf(flown.pace, flown.people));
+      return fields.costOf(fieldThere(), flown.pace, air.dragOf(flown.pace, flown.people));
     }
 
     boolean leadsInto(int field, int k, int p) {
@@ -1478,7 +1476,6 @@ public final class DownAmongFences {
     }
 
     void playGame() {
-      begin();
       for (int turn = 0; turn < 2; turn++) {
         for (int choice = 0; choice < CHOICES; choice++) {
           losses[choice * 2 + turn] = follow(5 * choice, 1) ? costThere() : OUTSIDE;

@@ -7,13 +7,20 @@ final class Both {
   private final Check check;
   private final String run;
   private String told = "";
+  private int calls;
 
   Both(Check check, String run) {
     this.check = check;
     this.run = run;
   }
 
+  /** Whether a test may go on: only an object's first 512 calls are promised. */
+  boolean hasRoomFor(int more) {
+    return calls + more <= 512;
+  }
+
   private void same(String call, long got, long want) {
+    calls++;
     told = told.length() > 1500 ? ".. " + told.substring(told.length() - 1400) : told;
     told += call + " ";
     check.is(run + ": " + (got == want ? call : told), got, want);

@@ -303,6 +303,9 @@ public final class FlightPromisesTest {
     check.is("7: a size more", x.cost(1, 4), 11);
     x.wind(0, -1, 0);
     check.is("7: wind to the left drags", x.cost(0, 3), 26);
+    x.set(3, 2);
+    check.is("8: drag 11", x.drag(3), 11);
+    check.is("7: just above it", x.cost(0, 3), 26);
     x.set(3, 3);
     check.is("7: people hold", x.cost(0, 3), 6);
   }

@@ -1,7 +1,6 @@
 /** Long thrown runs of calls: the class answers as the model does. */
 public final class RunsTest {
-  private static final int RUNS = 400;
-  private static final int CALLS = 220;
+  private static final int RUNS = 600;
 
   public static void main(String[] args) {
     Check check = new Check();
@@ -9,7 +8,8 @@ public final class RunsTest {
       Dice d = new Dice(run);
       Both both = new Both(check, "run " + run);
       prepare(both, d);
-      for (int i = 0; i < CALLS; i++) {
+      // The longest of one() is a LAND of some 80 letters, and the counts at the end are some 50 calls.
+      while (both.hasRoomFor(150)) {
         one(both, d);
       }
       both.sameCounts();

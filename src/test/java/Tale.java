@@ -3,15 +3,21 @@ final class Tale {
   private Tale() {
   }
 
-  static DownAmongFences of(String letters) {
+  /** A balloon to which STATEMENTS are told, as many LANDS as they need. */
+  static DownAmongFences of(String... tales) {
     DownAmongFences x = new DownAmongFences();
-    if (!letters.isEmpty()) {
+    for (String letters : tales) {
       int answer = tell(x, letters);
       if (answer < 1) {
         throw new IllegalStateException("the test's own LAND is at fault: " + letters + " " + answer);
       }
     }
     return x;
+  }
+
+  /** The STATEMENT of a FIELD. */
+  static String field(int kind, int figure, int x, int y, int size) {
+    return String.format("f%d%d%03d%03d%02d;", kind, figure, x, y, size);
   }
 
   static int tell(DownAmongFences x, String letters) {
