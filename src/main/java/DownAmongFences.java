@@ -52,8 +52,8 @@ public final class DownAmongFences {
   private final World picture = new World();
   private boolean pictured;
   private final Past past = new Past();
-  private final Letters letters = new Letters();
-  private final Row numbers = new Row();
+  private final Reader reader = new Reader();
+  private final Row numbers = new Row(ROW_LENGTH);
   private final int[] refusals = new int[7];
   private final Mind mind = new Mind();
   private final Ways ways = new Ways();
@@ -67,17 +67,17 @@ public final class DownAmongFences {
     if (letter < 0) {
       return refuse(BELOW);
     }
-    if (letter > 255 || letters.isFull()) {
+    if (letter > 255 || reader.letters.isFull()) {
       return refuse(ROOM);
     }
-    return letters.add(letter);
+    return reader.letters.add(letter);
   }
 
   public int land() {
     told.copyFrom(now);
-    int misplaced = letters.firstMisplaced();
-    int answer = misplaced == NONE ? letters.tell(told) : -1000 - misplaced;
-    letters.drop();
+    int misplaced = reader.firstMisplaced();
+    int answer = misplaced == NONE ? reader.tell(told) : -1000 - misplaced;
+    reader.letters.drop();
     if (answer >= 0) {
       now.copyFrom(told);
       past.forget();
@@ -277,16 +277,10 @@ public final class DownAmongFences {
   }
 
   public int blown(int what) {
-    switch (what) {
-      case 0:
-        return now.air.rightmost();
-      case 1:
-        return now.air.leftmost();
-      case 2:
-        return now.air.fastestAhead();
-      default:
-        return refuse(OTHER);
+    if (what < 0 || what > 2) {
+      return refuse(OTHER);
     }
+    return now.air.layerFarthest(what);
   }
 
   public int two(int side, int ahead, int what) {
@@ -676,7 +670,7 @@ public final class DownAmongFences {
       case 8:
         return now.flight.step;
       case 9:
-        return letters.length;
+        return reader.letters.length;
       case 10:
         return numbers.length;
       case 17:
@@ -797,28 +791,20 @@ public final class DownAmongFences {
       return Math.max(0, 4 * pace + 3 * (Math.abs(sides[0]) + aheads[0]) - 2 * people);
     }
 
-    int rightmost() {
+    /** The LAYER that goes most to the right (0), left (1), ahead (2). */
+    int layerFarthest(int way) {
       int most = 0;
       for (int layer = 1; layer < LAYERS; layer++) {
-        most = sides[layer] > sides[most] ? layer : most;
+        most = speedTo(way, layer) > speedTo(way, most) ? layer : most;
       }
       return most;
     }
 
-    int leftmost() {
-      int most = 0;
-      for (int layer = 1; layer < LAYERS; layer++) {
-        most = sides[layer] < sides[most] ? layer : most;
+    private int speedTo(int way, int layer) {
+      if (way == 2) {
+        return aheadOf(layer);
       }
-      return most;
-    }
-
-    int fastestAhead() {
-      int most = 0;
-      for (int layer = 1; layer < LAYERS; layer++) {
-        most = aheads[layer] > aheads[most] ? layer : most;
-      }
-      return most;
+      return way == 0 ? sideOf(layer) : -sideOf(layer);
     }
 
     int fewestSteps(int side, int ahead) {
@@ -1187,17 +1173,23 @@ public final class DownAmongFences {
     }
   }
 
-  /** The numbers told by row(). */
+  /** What is told one by one: numbers of the ROW, or letters. */
   private static final class Row {
+    private static final int END = -1;
+
     int length;
-    private final int[] told = new int[ROW_LENGTH];
+    private final int[] told;
+
+    Row(int room) {
+      told = new int[room < 0 ? 0 : room];
+    }
 
     boolean isFull() {
-      return length >= ROW_LENGTH;
+      return length >= told.length;
     }
 
     int add(int v) {
-      if (length >= 0 && length < ROW_LENGTH) {
+      if (length >= 0 && length < told.length) {
         told[length] = v;
         length++;
       }
@@ -1205,7 +1197,7 @@ public final class DownAmongFences {
     }
 
     int at(int i) {
-      return i >= 0 && i < length && i < ROW_LENGTH ? told[i] : 0;
+      return i >= 0 && i < length && i < told.length ? told[i] : END;
     }
 
     int sum() {
@@ -1641,41 +1633,18 @@ public final class DownAmongFences {
     }
   }
 
-  /** The letters in which a LAND is told. */
-  private static final class Letters {
-    private static final int END = -1;
-
-    int length;
-    private final int[] told = new int[LETTERS];
-
-    boolean isFull() {
-      return length >= LETTERS;
-    }
-
-    int add(int letter) {
-      if (length >= 0 && length < LETTERS) {
-        told[length] = letter;
-        length++;
-      }
-      return length;
-    }
-
-    void drop() {
-      length = 0;
-    }
-
-    private int at(int place) {
-      return place >= 0 && place < length && place < LETTERS ? told[place] : END;
-    }
+  /** Reads the letters in which a LAND is told. */
+  private static final class Reader {
+    final Row letters = new Row(LETTERS);
 
     private boolean isDigit(int place) {
-      return at(place) >= '0' && at(place) <= '9';
+      return letters.at(place) >= '0' && letters.at(place) <= '9';
     }
 
     private int number(int place, int digits) {
       int v = 0;
       for (int i = 0; i < digits; i++) {
-        v = 10 * v + at(place + i) - '0';
+        v = 10 * v + letters.at(place + i) - '0';
       }
       return v;
     }
@@ -1683,7 +1652,7 @@ public final class DownAmongFences {
     /** The place of a FAULT of kind 1. */
     int firstMisplaced() {
       int start = 0;
-      for (int i = 0; i < LETTERS && (start == 0 || start < length); i++) {
+      for (int i = 0; i < LETTERS && (start == 0 || start < letters.length); i++) {
         int end = endOf(start);
         if (end < 0) {
           return -1 - end;
@@ -1697,7 +1666,7 @@ public final class DownAmongFences {
     int tell(World world) {
       int statements = 0;
       int start = 0;
-      while (statements < LETTERS && start < length) {
+      while (statements < LETTERS && start < letters.length) {
         int end = endOf(start);
         if (!tellStatement(start, end, world)) {
           return -2000 - start;
@@ -1710,7 +1679,7 @@ public final class DownAmongFences {
 
     /** Where the ";" of the STATEMENT from start stands; if that is no STATEMENT, -1 less the wrong place. */
     private int endOf(int start) {
-      switch (at(start)) {
+      switch (letters.at(start)) {
         case 'w':
           return endOfWind(start);
         case 'f':
@@ -1734,7 +1703,7 @@ public final class DownAmongFences {
       if (!isDigit(start + 1)) {
         return -1 - (start + 1);
       }
-      int sign = at(start + 2);
+      int sign = letters.at(start + 2);
       if (sign != '+' && sign != '-') {
         return -1 - (start + 2);
       }
@@ -1746,12 +1715,12 @@ public final class DownAmongFences {
       while (place < from + most && isDigit(place)) {
         place++;
       }
-      return place >= from + least && at(place) == ';' ? place : -1 - place;
+      return place >= from + least && letters.at(place) == ';' ? place : -1 - place;
     }
 
     /** Whether the STATEMENT is as it must be; then the world has it. */
     private boolean tellStatement(int start, int end, World world) {
-      switch (at(start)) {
+      switch (letters.at(start)) {
         case 'w':
           return tellWind(start, world.air);
         case 'f':
@@ -1775,7 +1744,7 @@ public final class DownAmongFences {
         return false;
       }
       int side = number(start + 3, 1);
-      air.blow(layer, at(start + 2) == '-' ? -side : side, number(start + 4, 1));
+      air.blow(layer, letters.at(start + 2) == '-' ? -side : side, number(start + 4, 1));
       return true;
     }
 
