@@ -204,8 +204,9 @@ public final class FlightPromisesTest {
     check.is("3: none came", x.count(0), 7);
     check.is("3: the eighth", Tale.tell(x, "f0000000003;"), 1);
     check.is("3: no ninth", Tale.tell(x, "f0000000001;"), -2000);
-    for (int i = 0; i < 110; i++) {
-      Tale.tell(x, "a000000000;");
+    // STEP 999 lies beyond the 512 calls that are promised; the class goes on the same.
+    for (int i = 0; i < 990; i++) {
+      x.go(0);
     }
     check.is("3: step", x.count(8), 990);
     check.is("3: step above 999", Tale.tell(x, "a000000000;a0;"), -2011);
@@ -452,7 +453,8 @@ public final class FlightPromisesTest {
     check.is("11: 59 less 1 and 4", x.count(4), 60);
     x = Tale.of("w7+99;b60606;l0;h39;");
     for (int i = 0; i < 120; i++) {
-      Tale.tell(x, "b60606;h39;a1;");
+      x.set(1, 60);
+      x.go(0);
     }
     check.is("11: x and y at most 999", x.count(2) * 1000 + x.count(3), 999999);
     x = Tale.of("b40304;l0;");

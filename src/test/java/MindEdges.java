@@ -59,8 +59,12 @@ final class MindEdges {
         }
         check.holds("what was asked of another now does not count", inMind(x).equals(inMind(y)));
         check.holds("what was asked of this one neither", inMind(x).equals(inMind(y)));
-        check.holds("nothing is different by it", Tale.state(x).equals(Tale.state(y)));
       }
+      DownAmongFences y = landed();
+      for (int what = 0; what < 5; what++) {
+        y.set(what, states[states.length - 1][what]);
+      }
+      check.holds("nothing is different by it", Tale.state(x).equals(Tale.state(y)));
     });
   }
 

@@ -147,8 +147,8 @@ final class RoadEdges {
       int[][] cases = {{0, 0}, {50, 0}, {51, 1}, {99, 1}, {100, 1}, {149, 1}, {150, 1}, {151, 2}, {650, 6}, {651, 7}, {700, 7},
           {999, 7}};
       for (int[] c : cases) {
-        DownAmongFences x = Tale.of("r0110;r0220;r0330;r0440;r0550;r0660;r0770;", "b60601;h39;");
-        bringTo(x, c[0]);
+        DownAmongFences x = Tale.of("r0110;r0220;r0330;r0440;r0550;r0660;r0770;");
+        Tale.bringTo(x, c[0]);
         check.is("X", x.count(2), c[0]);
         check.is("from X " + c[0], x.chase(0, 0, 0), 10 * c[1]);
       }
@@ -175,17 +175,6 @@ final class RoadEdges {
       check.is("no way, whether", new DownAmongFences().chase(0, 0, 1), -9);
       check.is("not down, whether", Tale.of("b60001;l0;h39;r0101;").chase(0, 0, 1), -9);
     });
-  }
-
-  private static void bringTo(DownAmongFences x, int place) {
-    while (x.count(2) != place) {
-      x.wind(7, Math.max(-9, Math.min(9, place - x.count(2))), 0);
-      if (x.count(4) < 30) {
-        x.set(1, 60);
-      }
-      x.go(0);
-    }
-    x.set(0, 0);
   }
 
   /** One that comes DOWN behind just so many STEPS, if nothing is done. */
@@ -217,8 +206,8 @@ final class RoadEdges {
       check.is("all, one way", x.tour(255, 0), 693);
       x.car(3);
       check.is("all, the shorter side first", x.tour(255, 0), 99 * 10);
-      DownAmongFences y = Tale.of("r0123;r0245;r1411;r2407;r3599;r0531;r5602;r6744;r1750;r2312;");
       for (int at = 0; at < 8; at++) {
+        DownAmongFences y = Tale.of("r0123;r0245;r1411;r2407;r3599;r0531;r5602;r6744;r1750;r2312;");
         y.car(at);
         for (int places = 1; places < 256; places += 127) {
           check.is("from " + at + " to " + places, y.tour(places, 0), Laws.tour(y, places)[0]);
@@ -246,13 +235,14 @@ final class RoadEdges {
       check.is("both ways about are as good", x.tour(255, 1), 1);
       x.road(0, 1, 11);
       check.is("the other way about is better", x.tour(255, 1), 7);
-      DownAmongFences y = Tale.of("r0110;r0210;r1210;r2310;r1310;r3410;r4510;r5610;r6710;");
-      for (int at = 0; at < 8; at += 5) {
+      for (int at = 0; at < 8; at++) {
+        DownAmongFences y = Tale.of("r0110;r0210;r1210;r2310;r1310;r3410;r4510;r5610;r6710;");
         y.car(at);
-        for (int places = 1; places < 256; places += 42) {
+        for (int places = 1; places < 256; places += 63) {
           check.is("from " + at + ", tour of " + places, y.tour(places, 1), Laws.tour(y, places)[1]);
         }
       }
+      DownAmongFences y = Tale.of(ROADS);
       y.car(1);
       check.is("the first place is the first", y.tour(1, 1), 0);
     });

@@ -188,21 +188,10 @@ public final class RoadPromisesTest {
         {999, 7}, {50, 0}, {51, 1}, {0, 0}};
     for (int[] c : cases) {
       DownAmongFences x = Tale.of("r0110;r0220;r0330;r0440;r0550;r0660;r0770;");
-      bringTo(x, c[0]);
+      Tale.bringTo(x, c[0]);
       check.is("43: x is", x.count(2), c[0]);
       check.is("43: nearest to " + c[0], x.chase(0, 0, 0), 10 * c[1]);
     }
-  }
-
-  private static void bringTo(DownAmongFences x, int place) {
-    Tale.tell(x, "b60606;l0;h39;");
-    for (int i = 0; i < 200 && x.count(2) != place; i++) {
-      x.wind(7, Math.max(-9, Math.min(9, place - x.count(2))), 0);
-      x.set(0, 39);
-      x.set(1, 60);
-      x.go(0);
-    }
-    x.set(0, 0);
   }
 
   private static void tour() {

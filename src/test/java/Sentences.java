@@ -30,6 +30,8 @@ final class Sentences {
   Sentences(Check check, Path file) throws IOException {
     this.check = check;
     document = Files.readString(file).replaceAll("\\s+", " ");
+    start("What it is", "An object is used for ");
+    start("The face", "## The public face");
     start("I", "==== I. ");
     start("II", "==== II. ");
     start("III", "==== III. ");
@@ -82,14 +84,19 @@ final class Sentences {
     check.about("");
   }
 
+  /** Whether a place is within the face or within a promise's name and its call as Java writes it. */
+  private boolean isCode(int place) {
+    boolean face = place >= starts.get("The face") && place < starts.get("I");
+    return face || document.lastIndexOf("## Promise", place) > document.lastIndexOf("`: ", place);
+  }
+
   /** Tells each word of an edge that no test has quoted. */
   void allEdgesAreQuoted() {
     Matcher edge = EDGE.matcher(document);
     int last = ends.get(ends.size() - 1);
-    for (int at = starts.get("I"); edge.find(at) && edge.start() < last; at = edge.end()) {
+    for (int at = starts.get("What it is"); edge.find(at) && edge.start() < last; at = edge.end()) {
       int place = edge.start();
-      boolean heading = document.lastIndexOf("## ", place) > document.lastIndexOf("`: ", place);
-      if (!heading && !quoted.get(place)) {
+      if (!quoted.get(place) && !isCode(place)) {
         check.holds("no test is of .. " + document.substring(Math.max(0, place - 50), Math.min(last, place + 50)) + " ..",
             false);
       }

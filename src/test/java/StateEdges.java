@@ -11,6 +11,8 @@ final class StateEdges {
   }
 
   void all() {
+    doc.in("What it is");
+    manyCalls();
     doc.in("I");
     air();
     places();
@@ -31,6 +33,22 @@ final class StateEdges {
     outside();
     drag();
     roads();
+  }
+
+  private void manyCalls() {
+    doc.says("An object is used for at most 512 calls after it has been made; what later calls answer is free", () -> {
+      DownAmongFences x = new DownAmongFences();
+      for (int i = 1; i <= 510; i++) {
+        check.is("call " + i, x.go(0), 0);
+      }
+      check.is("call 511", x.back(), 509);
+      check.is("call 512", x.count(8), 509);
+      DownAmongFences y = new DownAmongFences();
+      for (int i = 1; i <= 511; i++) {
+        check.is("refusal " + i, y.car(8), -1);
+      }
+      check.is("call 512", y.count(11), 511);
+    });
   }
 
   private static DownAmongFences balloon(int heat, int people, int height) {

@@ -27,6 +27,25 @@ final class Tale {
     return x.land();
   }
 
+  /** Brings a balloon to an X by the wind of the highest LAYER and leaves it DOWN there. */
+  static void bringTo(DownAmongFences x, int place) {
+    int way = place - x.count(2);
+    int side = way < 0 ? -9 : 9;
+    x.set(0, 39);
+    x.set(3, 1);
+    for (int gone = 0; gone < Math.abs(way) / 9; gone++) {
+      if (gone % 20 == 0) {
+        x.wind(7, side, 0);
+        x.set(1, 60);
+      }
+      x.go(0);
+    }
+    x.wind(7, way % 9, 0);
+    x.set(1, 60);
+    x.go(0);
+    x.set(0, 0);
+  }
+
   static void row(DownAmongFences x, int... numbers) {
     x.clear();
     for (int v : numbers) {
