@@ -1,5 +1,6 @@
 import java.util.Arrays;
 import java.util.function.Supplier;
+import java.util.function.ToIntFunction;
 
 /** Part II of the document, the flight: PLANS, FIELDS that can be HAD, SWING, LOTS and what can be TAKEN BACK. */
 final class MindEdges {
@@ -281,7 +282,8 @@ final class MindEdges {
     doc.says("BEST PLAN of all: least COST, of several the first; that COST", () -> {
       String[] fields = {Tale.field(0, 0, 102, 1, 1), Tale.field(0, 0, 104, 2, 1), Tale.field(0, 0, 106, 3, 1),
           Tale.field(0, 0, 108, 4, 1), Tale.field(1, 9, 90, 0, 30), ""};
-      int[][] due = {{2, 4 - 1}, {1, 2}, {2, 3}, {0, 2}, {0, 16}, {0, 40}};
+      int[] plans = {2, 1, 21, 0, 0, 0};
+      int[] costs = {3, 2, 3, 2, 16, 40};
       for (int i = 0; i < fields.length; i++) {
         DownAmongFences x = Tale.of(DRY);
         DownAmongFences y = Tale.of(DRY);
@@ -290,8 +292,10 @@ final class MindEdges {
           Tale.tell(y, fields[i]);
         }
         int[] best = Laws.best(y);
-        check.is("the plan " + i, x.best(0), best[0]);
-        check.is("its cost " + i, x.best(1), best[1]);
+        check.is("the plan " + i, x.best(0), plans[i]);
+        check.is("by looking at each " + i, best[0], plans[i]);
+        check.is("its cost " + i, x.best(1), costs[i]);
+        check.is("its cost by looking at each " + i, best[1], costs[i]);
       }
       DownAmongFences x = Tale.of(DRY, Tale.field(0, 0, 104, 2, 1), Tale.field(0, 0, 108, 4, 1));
       check.is("of two of the same cost the first", x.best(0), 0);
@@ -658,9 +662,10 @@ final class MindEdges {
     });
     doc.says("all else of I that is not refused and is about the flight or the land alone (feed() is not), and restore(), leave "
         + "none, also if nothing is different)", () -> {
+      int[] counts = {1, 4, 5, 6, 7};
       for (int what = 0; what < 5; what++) {
         int w = what;
-        leavesNone(x -> x.set(w, new int[] {1, 4, 5, 6, 7}[w] < 0 ? 0 : x.count(new int[] {1, 4, 5, 6, 7}[w])));
+        leavesNone(x -> x.set(w, x.count(counts[w])));
       }
       leavesNone(x -> x.set(0, 20));
       leavesNone(x -> x.wind(0, 2, 1));
@@ -719,7 +724,7 @@ final class MindEdges {
     return x;
   }
 
-  private void leavesNone(java.util.function.ToIntFunction<DownAmongFences> call) {
+  private void leavesNone(ToIntFunction<DownAmongFences> call) {
     DownAmongFences x = busyWithLetters();
     check.is("two", x.count(18), 2);
     check.holds("not refused", call.applyAsInt(x) >= 0);
